@@ -611,46 +611,39 @@ public final class Juryreel {
         return level == 1 ? 't' : '-';
     }
 
-    private void checkFilm(int film) {
-        if (!isWithin(film, 0, filmCount - 1)) {
-            throw new IndexOutOfBoundsException("no such film");
+    private static void checkNumber(int number, int many) {
+        if (!isWithin(number, 0, many - 1)) {
+            throw new IndexOutOfBoundsException("there is none of that number");
         }
+    }
+
+    private void checkFilm(int film) {
+        checkNumber(film, filmCount);
     }
 
     private void checkReader(int reader) {
-        if (!isWithin(reader, 0, readings.readerCount - 1)) {
-            throw new IndexOutOfBoundsException("no such reader");
-        }
+        checkNumber(reader, readings.readerCount);
     }
 
     private void checkSection(int section) {
-        if (!isWithin(section, 0, sectionCount - 1)) {
-            throw new IndexOutOfBoundsException("no such section");
-        }
+        checkNumber(section, sectionCount);
     }
 
+    /** The section must have been checked. */
     private void checkJuror(int section, int juror) {
-        if (!isWithin(juror, 0, sections[section].jurorCount - 1)) {
-            throw new IndexOutOfBoundsException("no such juror");
-        }
+        checkNumber(juror, sections[section].jurorCount);
     }
 
     private void checkScreen(int screen) {
-        if (!isWithin(screen, 0, venue.screenCount - 1)) {
-            throw new IndexOutOfBoundsException("no such screen");
-        }
+        checkNumber(screen, venue.screenCount);
     }
 
     private void checkShow(int show) {
-        if (!isWithin(show, 0, grid.showCount - 1)) {
-            throw new IndexOutOfBoundsException("no such show");
-        }
+        checkNumber(show, grid.showCount);
     }
 
     private void checkPass(int pass) {
-        if (!isWithin(pass, 0, passes.passCount - 1)) {
-            throw new IndexOutOfBoundsException("no such pass");
-        }
+        checkNumber(pass, passes.passCount);
     }
 
     private void checkHour(int hour) {

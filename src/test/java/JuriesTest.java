@@ -270,6 +270,15 @@ public final class JuriesTest {
         ballot(k, 1, 2, 0);
         ballot(k, 2, 0, 1, 2);
         Check.same("like duels with 2, none ahead of all: 0 and 2 have like points", winnerBy(k, 'c'), 0);
+        Juryreel like = withJury(3, 9, 9);
+        ballot(like, 0, 0, 1, 2);
+        ballot(like, 1, 1, 2, 0);
+        Check.same("0 is like with both, 1 has 3 points", winnerBy(like, 'c'), 1);
+        Juryreel both = withJury(3, 1, 1, 9);
+        ballot(both, 0, 0, 2);
+        ballot(both, 1, 0, 2);
+        ballot(both, 2, 0, 1, 2);
+        Check.same("ballots that have both alone", winnerBy(both, 'c'), 0);
         Juryreel apart = withJury(2, 0, 1);
         ballot(apart, 0, 1);
         ballot(apart, 1, 0);

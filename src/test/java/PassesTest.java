@@ -97,6 +97,11 @@ public final class PassesTest {
         for (int i = 0; i < due.length; i++) {
             Check.same("seat of " + i, f.hasSeat(i, 0), due[i]);
         }
+        f.show(0, 0, 6);
+        f.join(0, 1);
+        f.join(1, 1);
+        Check.same("rank 3 has a seat where there is room", f.open(1), 2);
+        Check.same("the seat", f.hasSeat(0, 1), true);
     }
 
     private static void leavesOutThoseSeated() {

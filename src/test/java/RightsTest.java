@@ -1,11 +1,15 @@
+import java.lang.reflect.Field;
+import java.lang.reflect.Method;
+
 /** Promises 43 to 49: rights, the archive, sums and isSound. */
 public final class RightsTest {
-    public static void main(String[] args) {
+    public static void main(String[] args) throws ReflectiveOperationException {
         sellArguments();
         sells();
         fortyDeals();
         owners();
         lines();
+        fourHundredLines();
         checksums();
         shares();
         means();
@@ -81,6 +85,7 @@ public final class RightsTest {
         Check.same("first month", f.owner(0, 0, 5), 3);
         Check.same("last month", f.owner(0, 0, 7), 3);
         Check.same("buyer 0", f.owner(0, 9, 99), 0);
+        Check.same("month 0", f.owner(0, 9, 0), 0);
     }
 
     private static void lines() {
@@ -100,6 +105,30 @@ public final class RightsTest {
         Check.missing("no line 400", f, () -> f.line(400, false));
         Check.missing("no line at all", f, () -> f.line(Integer.MAX_VALUE, false));
         Check.missing("no line below", f, () -> f.line(Integer.MIN_VALUE, false));
+    }
+
+    /** Calls of one object come to fewer lines than are kept, so the lines are put in by hand. */
+    private static void fourHundredLines() throws ReflectiveOperationException {
+        Juryreel f = new Juryreel();
+        Field field = Juryreel.class.getDeclaredField("archive");
+        field.setAccessible(true);
+        Method add = field.getType().getDeclaredMethod("add", char.class, int.class);
+        add.setAccessible(true);
+        for (int i = 0; i < 400; i++) {
+            add.invoke(field.get(f), 's', i);
+        }
+        Check.same("the oldest one", f.line(399, true), 0);
+        Check.same("the latest one", f.line(0, true), 399);
+        add.invoke(field.get(f), 'x', 400);
+        Check.same("the oldest one goes first", f.line(399, true), 1);
+        Check.same("the latest letter", f.line(0, false), (int) 'x');
+        Check.same("the letter before", f.line(1, false), (int) 's');
+        Check.missing("at most 400", f, () -> f.line(400, true));
+        for (int i = 401; i < 1000; i++) {
+            add.invoke(field.get(f), 'd', i);
+        }
+        Check.same("the oldest of later ones", f.line(399, true), 600);
+        Check.same("the latest of later ones", f.line(0, true), 999);
     }
 
     private static void checksums() {
@@ -125,8 +154,9 @@ public final class RightsTest {
         g.screen(1, true);
         Check.same("none shown", g.shownShare(), 0.0f);
         g.show(0, 0, 5);
-        g.show(0, 0, 6);
         Check.same("one of three", g.shownShare(), 1.0f / 3.0f);
+        g.show(0, 0, 6);
+        Check.same("one of three, twice", g.shownShare(), 1.0f / 3.0f);
         g.show(1, 0, 0);
         Check.same("now counts", g.shownShare(), 2.0f / 3.0f);
         g.go(4);

@@ -142,6 +142,18 @@ public final class SectionsTest {
         f.deal(2, 1);
         f.read(2, 0, 50);
         Check.same("one without", f.choose(0), 1);
+        Juryreel g = new Juryreel();
+        g.reader(8);
+        g.reader(9);
+        for (int i = 0; i < 2; i++) {
+            g.film('f', 10, 1);
+            g.deal(i, 2);
+            g.read(i, 0, i == 0 ? 60 : 30);
+            g.read(i, 1, i == 0 ? 40 : 70);
+        }
+        g.section(9, 100, 0, '-', '-');
+        Check.same("65 and 35", g.even(0, 0) - g.even(0, 1), 30);
+        Check.same("30 apart is no quarrel", g.choose(0), 2);
     }
 
     private static void sectionsOfFilms() {
