@@ -103,6 +103,11 @@ public final class RandomRunsTest {
         return got;
     }
 
+    /** Asks the model, so that the program gets no more calls than a run may have. */
+    private Object ask(String name, Object... arguments) {
+        return answer(modelOf(FACE.get(name)), model, arguments);
+    }
+
     private static Method modelOf(Method method) {
         try {
             return Model.class.getDeclaredMethod(method.getName(), method.getParameterTypes());
@@ -203,7 +208,7 @@ public final class RandomRunsTest {
         }
         for (int i = 0; i < counts.get("film"); i++) {
             call("print", i, 'r', 0);
-            call("show", i, 0, real.now());
+            call("show", i, 0, model.now());
             for (int j = 0; j < 5; j++) {
                 call("see", 0, j, shows() - 1);
             }
@@ -213,7 +218,7 @@ public final class RandomRunsTest {
 
     private void readAll(int film) {
         for (int i = 0; i < counts.getOrDefault("reader", 0); i++) {
-            if (Boolean.TRUE.equals(answer(FACE.get("isDealt"), real, new Object[] {film, i}))) {
+            if (Boolean.TRUE.equals(ask("isDealt", film, i))) {
                 call("read", film, i, random.nextInt(4) == 0 ? number(0, 100) : number(40, 60));
             }
         }
@@ -280,13 +285,13 @@ public final class RandomRunsTest {
             case 2: call("go", 1); break;
             case 3: call("choose", one("section")); break;
             case 4: call("plan", one("section")); break;
-            default: call("show", one("film"), one("screen"), number(real.now(), 49)); break;
+            default: call("show", one("film"), one("screen"), number(model.now(), 49)); break;
         }
     }
 
     private int shows() {
         int many = 0;
-        while (answer(FACE.get("state"), real, new Object[] {many}) instanceof Character) {
+        while (ask("state", many) instanceof Character) {
             many++;
         }
         return many;
@@ -297,7 +302,7 @@ public final class RandomRunsTest {
         int many = shows();
         int asked = number(0, many - 1);
         for (int i = 0; i < many && asked >= 0 && asked < many; i++) {
-            if (real.state((asked + i) % many) == state) {
+            if (model.state((asked + i) % many) == state) {
                 return (asked + i) % many;
             }
         }
@@ -329,10 +334,10 @@ public final class RandomRunsTest {
     }
 
     private void seeTogether(int show) {
-        Object film = answer(FACE.get("of"), real, new Object[] {show, 'f'});
+        Object film = ask("of", show, 'f');
         int section = one("section");
-        if (film instanceof Integer && answer(FACE.get("sectionOf"), real, new Object[] {film}) instanceof Integer) {
-            section = real.sectionOf((Integer) film);
+        if (film instanceof Integer && ask("sectionOf", film) instanceof Integer) {
+            section = model.sectionOf((Integer) film);
         }
         for (int i = 0; i < 5; i++) {
             call("see", section, random.nextInt(10) == 0 ? number(0, 4) : i, show);
@@ -343,7 +348,7 @@ public final class RandomRunsTest {
     private void vote(int section, int juror) {
         List<Integer> ballot = new ArrayList<>();
         for (int i = 0; i < counts.getOrDefault("film", 0); i++) {
-            if (Integer.valueOf(section).equals(answer(FACE.get("sectionOf"), real, new Object[] {i}))) {
+            if (Integer.valueOf(section).equals(ask("sectionOf", i))) {
                 ballot.add(i);
             }
         }
