@@ -11,6 +11,7 @@ public final class SoundTest {
         seatsOfOnePass();
         rights();
         winners();
+        winnersThatDiffer();
         Check.end();
     }
 
@@ -141,5 +142,32 @@ public final class SoundTest {
             due("by " + rule, f, true);
             Check.same("winner by " + rule, f.winner(0), 1);
         }
+    }
+
+    /** A film that stands on a ballot twice has points by both places, if ballots are gone through one by one. */
+    private static void winnersThatDiffer() throws ReflectiveOperationException {
+        Juryreel f = Stage.addScreens(Stage.withChosen(10, 10, 10), 1);
+        f.juror(0, 9);
+        f.juror(0, 9);
+        f.plan(0);
+        for (int i = 0; i < 3; i++) {
+            f.see(0, 0, i);
+            f.see(0, 1, i);
+            f.go(1);
+        }
+        int[][] ballots = {{1, 2, 0}, {0, 2, 1}};
+        for (int juror = 0; juror < 2; juror++) {
+            for (int film : ballots[juror]) {
+                f.type(film);
+            }
+            f.rank(0, juror);
+        }
+        f.rule(0, 'b');
+        due("each film once", f, true);
+        int[] ballot = (int[]) get(Array.get(get(Array.get(get(f, "sections"), 0), "jurors"), 0), "ballot");
+        ballot[1] = 1;
+        due("a film twice", f, false);
+        f.rule(0, 'm');
+        due("but first places are the same", f, true);
     }
 }

@@ -26,6 +26,7 @@ public final class StoresTest {
         typed();
         sold();
         checksumWrapsAround();
+        allFull();
         questionsChangeNothing();
         toldChangesSomething();
         Check.end();
@@ -367,6 +368,66 @@ public final class StoresTest {
             }
         }
         Check.same("sum of sixty shows", f.checksum(), sum.longValue());
+    }
+
+    /** Twenty films that one reader of eight told 50 of, of which each of five sections has four, on four screens. */
+    private static Juryreel withAllFull() {
+        Juryreel f = Stage.withFilms(20);
+        for (int i = 0; i < 8; i++) {
+            f.reader(9);
+        }
+        for (int i = 0; i < 20; i++) {
+            f.deal(i, 1);
+            f.read(i, i % 8, 50);
+            f.print(i, 'r', 0);
+        }
+        for (int i = 0; i < 5; i++) {
+            f.section(4, 40, 0, '-', '-');
+            f.choose(i);
+            for (int j = 0; j < 5; j++) {
+                f.juror(i, 9);
+            }
+        }
+        Stage.addScreens(f, 4);
+        for (int i = 0; i < 60; i++) {
+            f.key(i % 20, i % 4, 0, 49);
+            f.show(i / 15 * 4, i / 15, 1 + i % 15);
+        }
+        for (int i = 0; i < 16; i++) {
+            f.pass(i % 4);
+        }
+        for (int i = 0; i < 40; i++) {
+            f.sell(i % 20, i / 20, 0, 99, 9);
+        }
+        return f;
+    }
+
+    private static void allFull() {
+        Juryreel f = withAllFull();
+        Check.same("sound", f.isSound(), true);
+        Check.same("four of twenty are shown", f.shownShare(), 4.0f / 20.0f);
+        Check.same("mean of twenty", f.meanScore(), 50.0);
+        Check.same("dealt to eight", f.deal(19, 7), 8);
+        Check.refused("dealt to one more", f, () -> f.deal(19, 1));
+        Check.same("score of the last one", f.score(19), 50);
+        Check.same("no quarrel of the last one", f.isInQuarrel(19), false);
+        Check.same("chosen of none", f.choose(4), 0);
+        Check.same("minutes of the last section", f.minutes(4), 40);
+        Check.full("plan of the last section", f, () -> f.plan(4));
+        Check.missing("no place of the last screen", f, () -> f.at(3, 49));
+        Check.same("the last show", f.at(3, 15), 59);
+        Check.same("the last reel", f.canShow(19, 3, 49), true);
+        Check.missing("no winner of the last section", f, () -> f.winner(4));
+        Check.same("the last deal", f.owner(19, 1, 99), 9);
+        Check.same("none to come on the last day", f.storm(9), 0);
+        Check.same("the last pass", f.join(15, 59), 1);
+        Check.same("its seat", f.open(59), 1);
+        f.go(15);
+        Check.same("the last juror", f.see(3, 4, 59), 1);
+        Check.refused("of a section with more films", f, () -> f.rank(3, 4));
+        Check.same("a film of the last section", f.withdraw(19), 0);
+        Check.missing("has none", f, () -> f.sectionOf(19));
+        Check.same("sound at the end", f.isSound(), true);
     }
 
     private static Juryreel withAll() {

@@ -200,6 +200,13 @@ public final class TermsTest {
         Check.same("one score", f.isInQuarrel(0), false);
         f.read(0, 1, 0);
         Check.same("100 and 0, even both", f.isInQuarrel(0), false);
+        Juryreel untold = withReaders(2, 9, 9);
+        untold.deal(0, 2);
+        untold.deal(1, 2);
+        untold.read(0, 0, 50);
+        untold.read(1, 1, 100);
+        Check.same("the other one told no score of it", untold.isInQuarrel(0), false);
+        Check.same("nor has the score of one more than one", untold.score(0), 50);
     }
 
     private static void whatAFilmStillIs() {
