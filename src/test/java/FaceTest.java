@@ -45,8 +45,36 @@ public final class FaceTest {
             Check.same("inside " + inner.getSimpleName(), isPublic(inner.getModifiers()), false);
         }
         Check.same("some twelve classes", Juryreel.class.getDeclaredClasses().length <= 12, true);
+        lookAtSizes();
         lookAtText(Files.readString(Path.of("src/main/java/Juryreel.java")));
         Check.end();
+    }
+
+    /** Rule 11: at most seven parameters, and some twenty fields beside the constants. */
+    private static void lookAtSizes() {
+        List<Class<?>> classes = new ArrayList<>(List.of(Juryreel.class.getDeclaredClasses()));
+        classes.add(Juryreel.class);
+        for (Class<?> type : classes) {
+            int fields = 0;
+            for (Field field : type.getDeclaredFields()) {
+                fields += Modifier.isStatic(field.getModifiers()) ? 0 : 1;
+            }
+            Check.same("some twenty fields in " + type.getSimpleName(), fields <= 20, true);
+            for (Method method : type.getDeclaredMethods()) {
+                Check.same("seven parameters of " + method.getName(), method.getParameterCount() <= 7, true);
+            }
+        }
+    }
+
+    /** Rule 11: some sixty lines a method; a method ends with the brace that stands under its first sign. */
+    private static void lookAtLengths(String text) {
+        Matcher method = Pattern.compile("(?ms)^((?: {4}){1,2})[A-Za-z][^\\n;]*\\)[^\\n;]*\\{\\n(.*?)^\\1\\}$").matcher(text);
+        int methods = 0;
+        while (method.find()) {
+            methods++;
+            Check.same("sixty lines behind " + method.start(), method.group(2).lines().count() <= 60, true);
+        }
+        Check.same("methods are found", methods > 49, true);
     }
 
     private static boolean isPublic(int modifiers) {
@@ -83,6 +111,7 @@ public final class FaceTest {
     }
 
     private static void lookAtText(String text) {
+        lookAtLengths(text);
         String code = text.replaceAll("(?s)/\\*.*?\\*/", "").replaceAll("//[^\n]*", "").replaceAll("\"[^\"\n]*\"", "\"\"");
         String[] strange = {"->", "::", "\\btry\\b", "\\bcatch\\b", "\\bfinally\\b", "\\bsynchronized\\b", "\\bassert\\b",
             "\\blambda\\b", "\\binstanceof\\b", "\\bprotected\\b", "\\bpackage\\b", "\\.equals\\(", "\\.hashCode\\(", "\\.toString\\(",
