@@ -6,8 +6,10 @@ import java.lang.reflect.Modifier;
 import java.nio.file.Files;
 import java.nio.file.Path;
 import java.util.ArrayList;
+import java.util.HashMap;
 import java.util.HashSet;
 import java.util.List;
+import java.util.Map;
 import java.util.Set;
 import java.util.regex.Matcher;
 import java.util.regex.Pattern;
@@ -77,6 +79,35 @@ public final class FaceTest {
         Check.same("methods are found", methods > 49, true);
     }
 
+    /** Rules 8 and 11: no recursion, and calls go at most eight deep. */
+    private static void lookAtDepths(String code) {
+        Map<String, Set<String>> calls = new HashMap<>();
+        Matcher method = Pattern.compile("(?ms)^((?: {4}){1,2})[A-Za-z][^\\n;=]* (\\w+)\\([^\\n;]*\\{\\n(.*?)^\\1\\}$").matcher(code);
+        while (method.find()) {
+            Set<String> called = calls.computeIfAbsent(method.group(2), name -> new HashSet<>());
+            Matcher call = Pattern.compile("(?<!new )\\b(\\w+)\\(").matcher(method.group(3));
+            while (call.find()) {
+                called.add(call.group(1));
+            }
+        }
+        Check.same("methods with calls are found", calls.size() > 100, true);
+        for (String name : calls.keySet()) {
+            int depth = depthOf(name, calls, 0);
+            Check.same("eight deep from " + name + ", not " + depth, depth <= 8, true);
+        }
+    }
+
+    private static int depthOf(String name, Map<String, Set<String>> calls, int open) {
+        if (open > 20 || !calls.containsKey(name)) {
+            return open > 20 ? 20 : 0;
+        }
+        int depth = 0;
+        for (String called : calls.get(name)) {
+            depth = Math.max(depth, depthOf(called, calls, open + 1));
+        }
+        return depth + 1;
+    }
+
     private static boolean isPublic(int modifiers) {
         return Modifier.isPublic(modifiers) || Modifier.isProtected(modifiers);
     }
@@ -115,9 +146,15 @@ public final class FaceTest {
         String code = text.replaceAll("(?s)/\\*.*?\\*/", "").replaceAll("//[^\n]*", "").replaceAll("\"[^\"\n]*\"", "\"\"");
         String[] strange = {"->", "::", "\\btry\\b", "\\bcatch\\b", "\\bfinally\\b", "\\bsynchronized\\b", "\\bassert\\b",
             "\\blambda\\b", "\\binstanceof\\b", "\\bprotected\\b", "\\bpackage\\b", "\\.equals\\(", "\\.hashCode\\(", "\\.toString\\(",
-            "\\bThread\\b", "\\bSystem\\.(?!arraycopy)", "\\bMath\\.\\w+Exact", "\\bstatic \\{", "\\bboolean\\[\\]\\["};
+            "\\bThread\\b", "\\bSystem\\.(?!arraycopy)", "\\bMath\\.\\w+Exact", "\\bstatic \\{", "\\bboolean\\[\\]\\[",
+            "\"\" \\+", "\\+ \"\""};
         for (String sign : strange) {
             Check.same("no " + sign, Pattern.compile(sign).matcher(code).find(), false);
+        }
+        lookAtDepths(code);
+        Matcher library = Pattern.compile("\\b[A-Z]\\w*\\.\\w+\\(").matcher(code);
+        while (library.find()) {
+            Check.same("of the library " + library.group(), List.of("Math.min(", "Math.max(").contains(library.group()), true);
         }
         Matcher imported = Pattern.compile("(?m)^import (.*);").matcher(code);
         while (imported.find()) {
